@@ -325,9 +325,23 @@ public final class PromisesTest {
         RouteWatch alone = withHouses(2);
         due("11: say", alone.say(0, 0, 1), 0);
         due("11: nothing changes", alone.rounds(0, 0), 0);
+        changeOfTheSameLength();
         RouteWatch restless = swaying();
         due("11: RESTLESS", restless.rounds(1, 0), 50);
         due("11: RESTLESS", restless.rounds(2, 0), 50);
+    }
+
+    private static void changeOfTheSameLength() {
+        // 1 turns in round 3 from its provider 3 to its customer 4, whose way is longer; so 6 turns to 2.
+        RouteWatch x = withHouses(7);
+        int[][] ties = {{3, 0}, {3, 1}, {3, 2}, {1, 4}, {4, 5}, {5, 0}, {1, 6}, {2, 6}};
+        for (int[] tie : ties) {
+            due("11: tie", x.tie(tie[0], tie[1], false), 1);
+        }
+        due("11: say", x.say(5, 62, 0), 0);
+        dueWay(x, 5, 62, 1, 1, 4, 5, 0);
+        dueWay(x, 5, 62, 6, 6, 2, 3, 0);
+        due("11: a change without another length", x.rounds(5, 62), 4);
     }
 
     private static void restless() {
@@ -556,6 +570,11 @@ public final class PromisesTest {
         due("15: say all", x.say(0, 0, 1), 2);
         due("15: all", x.goes(0, 0), 1);
         due("15: all", x.goes(2, 0), 1);
+        RouteWatch high = tower(10);
+        due("15: say", high.say(0, 0, 9), 0);
+        due("15: nine hops", high.goes(0, 63), 9);
+        due("15: say", high.say(6, 0, 0), 1);
+        due("15: nine hops down", high.goes(9, 0), 0);
         goesByOtherBlocksOnTheWay();
         goesInARound();
     }
@@ -688,6 +707,28 @@ public final class PromisesTest {
         due("18: as before", x.watchers(), 0b011000);
         due("18: unsay", x.unsay(1), 1);
         due("18: 3 sees both that are left", x.watchers(), 0b001000);
+        fewestWatchers();
+    }
+
+    private static void fewestWatchers() {
+        // 0 sees what 3 says, 1 what 4 says, 2 both; all three refuse nothing, but 3 and 4 do.
+        RouteWatch x = withHouses(6);
+        int[][] ties = {{0, 3}, {2, 3}, {1, 4}, {2, 4}};
+        for (int[] tie : ties) {
+            due("18: tie", x.tie(tie[0], tie[1], false), 1);
+        }
+        due("18: right", x.right(0, 0, 5), NONE);
+        due("18: say", x.say(1, 0, 3), 0);
+        due("18: say", x.say(1, 32, 4), 1);
+        due("18: refuses", x.set(1, 3, true), 0);
+        due("18: refuses", x.set(1, 4, true), 0);
+        due("18: SEES", x.saying(0, 5), 0b000101);
+        due("18: SEES", x.saying(1, 5), 0b000110);
+        due("18: one of a higher number rather than two", x.watchers(), 0b000100);
+        due("18: unsay", x.unsay(0), 1);
+        due("18: the least number", x.watchers(), 0b000010);
+        due("18: unsay", x.unsay(0), 1);
+        due("18: none is wanted", x.watchers(), 0);
     }
 
     private static void cure() {
@@ -720,6 +761,40 @@ public final class PromisesTest {
         due("19: 0 says it", x.say(1, 0, 0), 2);
         due("19: 0 says it, 3 is let off", x.cure(0), 0b10000);
         leastOfTheFewest();
+        refusalOfOneThatSaysItself();
+        letOff();
+    }
+
+    private static void refusalOfOneThatSaysItself() {
+        // 3 has the wide block of 0, and by way of 2 the half that 1 lies about; 2 lies about the wide one.
+        RouteWatch x = withHouses(4);
+        int[][] ties = {{2, 1}, {3, 2}, {3, 0}};
+        for (int[] tie : ties) {
+            due("19: tie", x.tie(tie[0], tie[1], false), 1);
+        }
+        due("19: right", x.right(0, 0, 0), NONE);
+        due("19: say", x.say(0, 0, 0), 0);
+        due("19: say", x.say(0, 0, 2), 1);
+        due("19: say", x.say(1, 0, 1), 2);
+        due("19: MISLED", x.misled(0), 0b1111);
+        due("19: 2 or 3, the least number", x.cure(0), 0b0100);
+        due("19: 1 has the wide block of its provider 2", x.misled(32), 0b0110);
+        due("19: 2 says it itself, 1 says nothing there", x.cure(32), 0b0010);
+    }
+
+    private static void letOff() {
+        // 1 lies about one address; who says any block with it is let off, all others are not.
+        for (int length = 0; length <= 6; length++) {
+            RouteWatch x = withHouses(3);
+            due("19: tie", x.tie(0, 1, false), 1);
+            due("19: right", x.right(0, 0, 2), NONE);
+            due("19: say", x.say(6, 63, 1), 0);
+            due("19: 0 says nothing", x.cure(63), 0b001);
+            due("19: a block beside", x.say(6, 62, 0), 1);
+            due("19: 0 is not let off", x.cure(63), 0b001);
+            due("19: say", x.say(length, 64 - (64 >> length), 0), 2);
+            due("19: 0 is let off by LENGTH " + length, x.cure(63), 0);
+        }
     }
 
     private static void leastOfTheFewest() {
@@ -786,6 +861,10 @@ public final class PromisesTest {
         due("20: as before", x.halves(0), 4);
         due("20: and says it still", x.saying(3, 2), 0);
         due("20: and says it still", x.way(3, 16, 0, 0), 0);
+        due("20: right", x.right(6, 0, 1), NONE);
+        due("20: say the first address of all", x.say(6, 0, 2), 4);
+        due("20: it is FALSE", x.saying(4, 3), 1);
+        due("20: one address has no halves", x.halves(4), NOT);
         halvesRefusedAndFull();
     }
 
