@@ -222,7 +222,7 @@ public final class RouteWatch {
         if (!isAddress(address)) {
             return BAD;
         }
-        int excused = goings.sayers(address);
+        int excused = goings.allSayers(address);
         int helpers = goings.helpers(address);
         int set = 0;
         for (int tries = 0; tries < MOST_SETS && set != NONE; tries++) {
@@ -298,16 +298,12 @@ public final class RouteWatch {
         return block >= 1 && block < BLOCKS;
     }
 
-    private static boolean isPlace(int house) {
-        return house >= 0 && house < MOST_HOUSES;
-    }
-
     private static int bit(int house) {
-        return isPlace(house) ? 1 << house : 0;
+        return house >= 0 && house < MOST_HOUSES ? 1 << house : 0;
     }
 
     private static boolean hasBit(int set, int house) {
-        return (set & bit(house)) != 0;
+        return house >= 0 && house < MOST_HOUSES && ((set >> house) & 1) == 1;
     }
 
     private int refusal(int block) {
@@ -383,7 +379,7 @@ public final class RouteWatch {
         private int ties;
         private int leaking;
         private int refusing;
-        private final int[] kinds = new int[MOST_HOUSES * MOST_HOUSES];
+        private final int[][] kinds = new int[MOST_HOUSES][MOST_HOUSES];
 
         int number() {
             return number;
@@ -415,12 +411,13 @@ public final class RouteWatch {
 
         /** What the other is to the house. */
         int kind(int house, int other) {
-            return isPlace(house) && isPlace(other) ? kinds[house * MOST_HOUSES + other] : STRANGER;
+            boolean known = house >= 0 && house < number && other >= 0 && other < number;
+            return known ? kinds[house][other] : STRANGER;
         }
 
         private void put(int house, int other, int kind) {
-            if (isPlace(house) && isPlace(other)) {
-                kinds[house * MOST_HOUSES + other] = kind;
+            if (has(house) && has(other)) {
+                kinds[house][other] = kind;
             }
         }
 
@@ -575,6 +572,8 @@ public final class RouteWatch {
     private static final class Ways {
         private final long[] rows = new long[MOST_HOUSES];
         private final int[] lengths = new int[MOST_HOUSES];
+        private final int[] lasts = new int[MOST_HOUSES];
+        // The houses on each way, by bits.
         private final int[] members = new int[MOST_HOUSES];
 
         void begin(int sayers) {
@@ -582,6 +581,7 @@ public final class RouteWatch {
                 boolean says = hasBit(sayers, h);
                 rows[h] = says ? h : 0;
                 lengths[h] = says ? 1 : 0;
+                lasts[h] = says ? h : NONE;
                 members[h] = says ? bit(h) : 0;
             }
         }
@@ -589,39 +589,42 @@ public final class RouteWatch {
         void copy(Ways other) {
             System.arraycopy(other.rows, 0, rows, 0, MOST_HOUSES);
             System.arraycopy(other.lengths, 0, lengths, 0, MOST_HOUSES);
+            System.arraycopy(other.lasts, 0, lasts, 0, MOST_HOUSES);
             System.arraycopy(other.members, 0, members, 0, MOST_HOUSES);
         }
 
         int length(int house) {
-            return isPlace(house) ? lengths[house] : 0;
+            return house >= 0 && house < lengths.length ? lengths[house] : 0;
         }
 
         int at(int house, int i) {
-            if (i < 0 || i >= length(house)) {
+            if (house < 0 || house >= MOST_HOUSES || i < 0 || i >= lengths[house]) {
                 return NONE;
             }
             return (int) (rows[house] >> (4 * i)) & 15;
         }
 
+        /** The house where the way ends. */
         int last(int house) {
-            return at(house, length(house) - 1);
+            return house >= 0 && house < lasts.length ? lasts[house] : NONE;
         }
 
         boolean isOn(int house, int other) {
-            return isPlace(house) && hasBit(members[house], other);
+            return house >= 0 && house < members.length && ((members[house] >> other) & 1) == 1;
         }
 
         /** Gives the house the way that next has in another table, itself ahead; whether that is a change. */
         boolean follow(int house, Ways other, int next) {
-            if (!isPlace(house)) {
+            if (house < 0 || house >= MOST_HOUSES) {
                 return false;
             }
-            boolean some = isPlace(next);
+            boolean some = next >= 0 && next < MOST_HOUSES;
             long row = some ? (other.rows[next] << 4) | house : 0;
             int length = some ? other.lengths[next] + 1 : 0;
             boolean changed = row != rows[house] || length != lengths[house];
             rows[house] = row;
             lengths[house] = length;
+            lasts[house] = some ? other.lasts[next] : NONE;
             members[house] = some ? other.members[next] | bit(house) : 0;
             return changed;
         }
@@ -695,7 +698,7 @@ public final class RouteWatch {
         /** The house from which h takes its way, which has to end at the wanted one if there is such. */
         private int bestFor(int h, int open, int wanted) {
             int best = NONE;
-            int bestRank = Integer.MAX_VALUE;
+            int bestRank = 0;
             for (int t = 0; t < houses.number(); t++) {
                 int kind = houses.kind(h, t);
                 int length = before.length(t);
@@ -706,7 +709,7 @@ public final class RouteWatch {
                 boolean taken = wanted == NONE || before.last(t) == wanted;
                 // No way is as long as 16, so the kind decides ahead of the length.
                 int rank = 16 * kind + length;
-                if (passes && taken && rank < bestRank) {
+                if (passes && taken && (best == NONE || rank < bestRank)) {
                     best = t;
                     bestRank = rank;
                 }
@@ -775,7 +778,7 @@ public final class RouteWatch {
             int here = house;
             // Who has made as many hops as there can be houses is where it was before.
             for (int hop = 0; hop < MOST_HOUSES; hop++) {
-                int next = isPlace(here) ? hops[here] : LOST;
+                int next = here >= 0 && here < hops.length ? hops[here] : LOST;
                 if (next == LOST || next == here) {
                     return next;
                 }
@@ -802,7 +805,7 @@ public final class RouteWatch {
         }
 
         /** The houses that say a block with the address, by bits. */
-        int sayers(int address) {
+        int allSayers(int address) {
             int set = 0;
             for (int block = ADDRESSES + address; block >= 1; block >>= 1) {
                 set |= sayings.sayers(block);

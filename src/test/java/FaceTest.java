@@ -20,7 +20,7 @@ public final class FaceTest {
         "saying(int,int)", "watchers()", "cure(int)", "halves(int)", "count(int)"};
     private static final String[] CONSTANTS = {"NONE", "BAD", "TWICE", "RING", "NOT", "FULL", "LOST", "ROUND"};
     private static final String RULED_OUT =
-        "\\b(throw|throws|try|catch|synchronized|assert|import|package|native|volatile|protected|Object|System\\.out)\\b|->|::";
+        "\\b(throw|throws|try|catch|synchronized|assert|import|package|native|volatile|protected|Object)\\b|->|::";
 
     private static final Check check = new Check();
 
