@@ -433,6 +433,18 @@ public final class PromisesTest {
         dueWay(least, 0, 0, 0, 0, 2, 4);
         shorterOfHigherNumber();
         passedOnToPeers();
+        notByWayOfItself();
+    }
+
+    private static void notByWayOfItself() {
+        // 0 leaks back to 1 what it had of 1; 1 would rather take it of its customer, but is on that way.
+        RouteWatch x = tower(3);
+        due("13: leaks", x.set(0, 0, true), 0);
+        due("13: say", x.say(0, 0, 2), 0);
+        dueWay(x, 0, 0, 0, 0, 1, 2);
+        dueWay(x, 0, 0, 1, 1, 2);
+        due("13: rounds", x.rounds(0, 0), 2);
+        due("13: REST", x.restless(0, 0), 0);
     }
 
     private static void shorterOfHigherNumber() {
