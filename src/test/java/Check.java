@@ -2,12 +2,26 @@
 final class Check {
     private int calls = 0;
     private int wrong = 0;
+    private String words = "";
+    private int callsBefore = 0;
+
+    /** From here on it is looked at whether these words of the document hold. */
+    void under(String sentence) {
+        words = sentence + ": ";
+        callsBefore = calls;
+    }
+
+    /** A sentence under which nothing was looked at has no test. */
+    void over() {
+        holds("something is looked at", calls > callsBefore);
+        words = "";
+    }
 
     void due(String call, int got, int want) {
         calls++;
         if (got != want) {
             wrong++;
-            System.out.println(call + " answered " + got + ", due is " + want);
+            System.out.println(words + call + " answered " + got + ", due is " + want);
         }
     }
 
