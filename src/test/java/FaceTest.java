@@ -22,6 +22,9 @@ public final class FaceTest {
     private static final String RULED_OUT =
         "\\b(throw|throws|try|catch|synchronized|assert|import|package|native|volatile|protected|Object)\\b|->|::";
 
+    // What the class uses of rule 4; whoever uses more of it adds that here.
+    private static final List<String> LIBRARY = List.of("Integer.bitCount", "System.arraycopy");
+
     private static final Check check = new Check();
 
     public static void main(String[] args) throws IOException {
@@ -65,7 +68,6 @@ public final class FaceTest {
                 check.holds(field + " is a public int constant", field.getType() == int.class
                     && modifiers == (Modifier.PUBLIC | Modifier.STATIC | Modifier.FINAL));
             }
-            check.holds(field + " is no state of the class", !Modifier.isStatic(modifiers) || Modifier.isFinal(modifiers));
         }
         check.holds("the constants are " + visible, visible.equals(List.of(CONSTANTS)));
         int[] values = {RouteWatch.NONE, RouteWatch.BAD, RouteWatch.TWICE, RouteWatch.RING, RouteWatch.NOT,
@@ -85,11 +87,55 @@ public final class FaceTest {
     private static void classesInside() {
         Class<?>[] inside = RouteWatch.class.getDeclaredClasses();
         check.holds("at most twelve classes", inside.length < 12);
+        membersOf(RouteWatch.class);
         for (Class<?> one : inside) {
+            membersOf(one);
             int modifiers = one.getModifiers();
             check.holds(one + " is static and not public",
                 Modifier.isStatic(modifiers) && !Modifier.isPublic(modifiers) && !Modifier.isProtected(modifiers));
             check.holds(one + " has at most twenty fields", one.getDeclaredFields().length <= 20);
+        }
+    }
+
+    private static void membersOf(Class<?> one) {
+        for (Method method : one.getDeclaredMethods()) {
+            check.holds(method + " takes at most seven", method.getParameterCount() <= 7);
+            boolean hidden = one != RouteWatch.class && Modifier.isPrivate(method.getModifiers());
+            check.holds(method + " bears no public name", !hidden || !isPublicName(method.getName()));
+        }
+        for (Field field : one.getDeclaredFields()) {
+            int modifiers = field.getModifiers();
+            check.holds(field + " is no state of the class", !Modifier.isStatic(modifiers) || Modifier.isFinal(modifiers));
+        }
+    }
+
+    private static boolean isPublicName(String name) {
+        for (String method : METHODS) {
+            if (method.startsWith(name + "(")) {
+                return true;
+            }
+        }
+        return false;
+    }
+
+    /** LANGUAGE.md, rule 11: a method opens and closes at the depth of its class's members. */
+    private static void lengths(String code) {
+        int start = 0;
+        String[] lines = code.split("\n");
+        for (int i = 0; i < lines.length; i++) {
+            if (lines[i].matches(" {4,8}(public|private|static|int|boolean|void|[A-Z]).*\\) \\{")) {
+                start = i;
+            }
+            if (lines[i].matches(" {4,8}}")) {
+                check.holds("at most sixty lines: " + lines[start], i - start < 60);
+            }
+        }
+    }
+
+    private static void library(String code) {
+        Matcher found = Pattern.compile("\\b[A-Z][a-z]+\\.[a-z]\\w*").matcher(code);
+        while (found.find()) {
+            check.holds(found.group() + " is of the library that is left", LIBRARY.contains(found.group()));
         }
     }
 
@@ -99,6 +145,8 @@ public final class FaceTest {
         while (found.find()) {
             check.holds("'" + found.group() + "' is ruled out", false);
         }
+        library(code);
+        lengths(code);
         check.holds("the file was read", code.contains("public final class RouteWatch"));
     }
 }

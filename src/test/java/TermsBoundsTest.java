@@ -831,6 +831,7 @@ public final class TermsBoundsTest {
         sentence("CURE: FALSE in all LENGTHS", TermsBoundsTest::cureOfAllLengths);
         sentence("CURE: of those with the fewest HOUSES the least number", TermsBoundsTest::fewestCure);
         sentence("CURE: all but the one that says it", TermsBoundsTest::nineCure);
+        sentence("CURE: all ten", TermsBoundsTest::tenCure);
         sentence("CURE: if these REFUSE, too", TermsBoundsTest::cureBesides);
         sentence("HALVES: .. if the HOUSE that is RIGHTFUL for it said both halves of it, too", TermsBoundsTest::halvesOfEachLength);
         sentence("HALVES: .. MISLED for the first address of its BLOCK", TermsBoundsTest::halvesAtTheFirstAddress);
@@ -953,6 +954,29 @@ public final class TermsBoundsTest {
         due("right", x.right(0, 0, 0), 9);
         due("no set", x.cure(0), NONE);
         due("the address beside", x.cure(1), 0);
+    }
+
+    private static void tenCure() {
+        // Came out of a search: also those that say a block pass on, or draw away, what others need.
+        RouteWatch x = World.tied(10, "0>3 7>0 0-8 4>1 1-8 2-3 4>2 2>8 2-9 4>3 3-5 3>6 3>8 4-7 9>4 5>6 8>5");
+        World.leak(x, 3, 8);
+        World.right(x, 1, 0, 4);
+        World.right(x, 3, 0, 9);
+        int[][] sayings = {{2, 3}, {2, 4}, {4, 2}, {4, 9}, {5, 3}, {5, 9}, {6, 4}};
+        for (int[] saying : sayings) {
+            World.say(x, saying[0], 0, saying[1]);
+        }
+        int letOff = 1 << 2 | 1 << 3 | 1 << 4 | 1 << 9;
+        due("all ten", x.cure(0), ALL);
+        World.refuse(x, 0, 1, 2, 3, 4, 5, 6, 7, 8, 9);
+        due("only such as say a BLOCK are MISLED", x.misled(0) & ~letOff, 0);
+        due("all do", x.cure(0), 0);
+        for (int h = 0; h < 10; h++) {
+            due("not " + h, x.set(1, h, false), 1);
+            check.holds("others are MISLED without " + h, (x.misled(0) & ~letOff) != 0);
+            due("then " + h + " is what is wanting", x.cure(0), 1 << h);
+            due("again " + h, x.set(1, h, true), 0);
+        }
     }
 
     private static void cureBesides() {
